@@ -481,8 +481,10 @@ public final class NestedVectors {
             defs.size = 0;
             faultPlace = -1;
             tokens.start(bytes);
-            for (int i = 0; i <= DEFS && tokens.kind == DEF; i++) {
-                definition();
+            for (int d = 0; d <= DEFS && tokens.kind == DEF; d++) {
+                title(d);
+                parameters(d);
+                meaning(d);
             }
             root = expression(0);
             expect(END);
@@ -504,29 +506,22 @@ public final class NestedVectors {
             }
         }
 
-        private void definition() {
-            if (defs.size >= DEFS) {
+        private void title(int d) {
+            if (d >= DEFS) {
                 fail();
                 return;
             }
             tokens.advance();
-            int d = defs.size;
             if (tokens.kind == NAME) {
                 defs.add(tokens.word, tokens.place);
             }
             expect(NAME);
             expect('(');
-            if (tokens.kind != ')') {
-                parameters(d);
-            }
-            expect(')');
-            expect('=');
-            put(defs.root, d, expression(0));
-            expect(';');
         }
 
         private void parameters(int d) {
-            for (int i = 0; i <= PARAMS; i++) {
+            boolean more = tokens.kind != ')';
+            for (int i = 0; i <= PARAMS && more; i++) {
                 if (tokens.kind != NAME || i == PARAMS) {
                     fail();
                     return;
@@ -535,11 +530,18 @@ public final class NestedVectors {
                 tokens.advance();
                 expect(':');
                 put(defs.paramDepth, d * PARAMS + i, type());
-                if (tokens.kind != ',') {
-                    return;
+                more = tokens.kind == ',';
+                if (more) {
+                    tokens.advance();
                 }
-                tokens.advance();
             }
+            expect(')');
+        }
+
+        private void meaning(int d) {
+            expect('=');
+            put(defs.root, d, expression(0));
+            expect(';');
         }
 
         private int type() {
@@ -1013,8 +1015,9 @@ public final class NestedVectors {
 
         private int depthOfChoice(int k) {
             int depth = at(tree.depth, at(tree.tail, k));
-            boolean same = at(tree.depth, tree.second(k)) == depth;
-            return same && at(tree.depth, at(tree.head, k)) == 0 ? depth : -1;
+            int first = at(tree.head, k);
+            boolean same = at(tree.depth, at(tree.next, first)) == depth;
+            return same && at(tree.depth, first) == 0 ? depth : -1;
         }
 
         private int depthOfRow(int k) {
@@ -2217,7 +2220,7 @@ public final class NestedVectors {
         }
 
         private boolean chosen(int choice, int lane, boolean wish) {
-            return rows.cell(choice, lane) != 0 == wish;
+            return (rows.cell(choice, lane) != 0) == wish;
         }
 
         /** The wanted variables in those of so many lanes where the choice is as wished. */
@@ -2377,6 +2380,9 @@ public final class NestedVectors {
 
     /** What a run came to: numbers, and of sequences the length and then the items; and its text. */
     private static final class Image {
+        // No number of 32 bits has more.
+        private static final int DIGITS = 10;
+        private final int[] digits = new int[DIGITS];
         private final int[] values;
         private int size;
         private int next;
@@ -2419,7 +2425,7 @@ public final class NestedVectors {
             int x = at(values, next);
             next++;
             if (depth <= 0) {
-                digits(x);
+                number(x);
                 return;
             }
             letter('[');
@@ -2432,18 +2438,19 @@ public final class NestedVectors {
             letter(']');
         }
 
-        private void digits(int x) {
-            long rest = Math.abs((long) x);
+        private void number(int x) {
             if (x < 0) {
                 letter('-');
             }
-            long unit = 1;
-            while (unit <= 100000000L && rest / (unit * 10) > 0) {
-                unit *= 10;
-            }
-            for (int i = 0; i < 10 && unit > 0; i++) {
-                letter((char) ('0' + rest / unit % 10));
-                unit /= 10;
+            long rest = Math.abs((long) x);
+            int n = 0;
+            do {
+                put(digits, n, (int) (rest % 10));
+                rest /= 10;
+                n++;
+            } while (rest > 0 && n < DIGITS);
+            for (int i = n - 1; i >= 0; i--) {
+                letter((char) ('0' + at(digits, i)));
             }
         }
 

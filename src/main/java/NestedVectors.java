@@ -27,8 +27,8 @@ public final class NestedVectors {
     private static final long INT = ((long) 'i' << 16) | ((long) 'n' << 8) | 't';
 
     // Orders of a Plan.
-    private static final int BEGIN = 0, FINISH = 1, BIND = 2, ENTER = 3, LEAVE = 4;
-    private static final int FORK = 5, TURN = 6, JOIN = 7, OPEN = 8, SIFT = 9, NEXT = 10;
+    private static final int BEGIN = 0, FINISH = 1, FINISH_ONE = 2, FINISH_TWO = 3, BIND = 4, ENTER = 5, LEAVE = 6;
+    private static final int FORK = 7, TURN = 8, JOIN = 9, OPEN = 10, SIFT = 11, NEXT = 12;
 
     private final byte[] tape = new byte[TAPE];
     private final Tree tree = new Tree();
@@ -677,7 +677,7 @@ public final class NestedVectors {
             if (kind == NUMBER) {
                 return create();
             }
-            if (kind == NAME || kind >= IOTA && kind <= PART) {
+            if (kind == NAME || (kind >= IOTA && kind <= PART)) {
                 return word(kind, nesting);
             }
             if (kind == '(' && within(nesting)) {
@@ -974,11 +974,31 @@ public final class NestedVectors {
                 blame(TYPED, at(tree.place, k));
             }
             put(tree.depth, k, depth);
-            if (kind == '{') {
-                plan.add(NEXT, k);
-            }
-            if (kind != LET) {
-                plan.add(kind == IF ? JOIN : kind == CALL ? ENTER : FINISH, k);
+            conclude(k, kind);
+        }
+
+        private void conclude(int k, int kind) {
+            switch (kind) {
+                case LET:
+                    break;
+                case IF:
+                    plan.add(JOIN, k);
+                    break;
+                case CALL:
+                    plan.add(ENTER, k);
+                    break;
+                case '{':
+                    plan.add(NEXT, k);
+                    plan.add(FINISH, k);
+                    break;
+                case NUMBER:
+                case NAME:
+                case ROW:
+                    plan.add(FINISH, k);
+                    break;
+                default:
+                    plan.add(partsOf(kind) == 1 ? FINISH_ONE : FINISH_TWO, k);
+                    break;
             }
         }
 
@@ -1110,6 +1130,8 @@ public final class NestedVectors {
         private final int[] back = new int[DEFS + 1];
         int top;
         int pc;
+        // The depth of what comes of the node that is at its end.
+        int depth;
         int finding;
         boolean done;
 
@@ -1123,9 +1145,9 @@ public final class NestedVectors {
 
         abstract void prepare();
 
-        abstract void begin(int k);
+        abstract void draw(int value, int nesting);
 
-        abstract void finish(int k);
+        abstract void begin(int k);
 
         abstract void fork(int k);
 
@@ -1139,13 +1161,43 @@ public final class NestedVectors {
 
         abstract void next(int k);
 
-        abstract void draw(int value, int depth);
+        abstract void collect(int k);
+
+        abstract void constant(int number);
+
+        abstract void row(int n);
+
+        abstract void combine(int sign, int a, int b);
+
+        abstract void measure(int s);
+
+        abstract void select(int s, int i);
+
+        abstract void countUp(int n);
+
+        abstract void repeat(int x, int n);
+
+        abstract void reduce(int kind, int s);
+
+        abstract void sumUp(int s);
+
+        abstract void reverse(int s);
+
+        abstract void append(int s, int t);
+
+        abstract void flatten(int s);
+
+        abstract void pack(int s, int flags);
+
+        abstract void permute(int s, int wishes);
+
+        abstract void divide(int s, int lengths);
 
         final void forget() {
             done = false;
         }
 
-        final int run(int depth) {
+        final int run(int programDepth) {
             start();
             for (int turn = 0; turn < TURNS && pc >= 0 && finding == 0; turn++) {
                 int k = at(plan.nodes, pc);
@@ -1157,6 +1209,12 @@ public final class NestedVectors {
                         break;
                     case FINISH:
                         finish(k);
+                        break;
+                    case FINISH_ONE:
+                        finishOne(k);
+                        break;
+                    case FINISH_TWO:
+                        finishTwo(k);
                         break;
                     case BIND:
                         put(slots, at(tree.slot, k), pop());
@@ -1187,7 +1245,7 @@ public final class NestedVectors {
                         break;
                 }
             }
-            conclude(depth);
+            conclude(programDepth);
             return finding;
         }
 
@@ -1199,12 +1257,86 @@ public final class NestedVectors {
             pc = at(plan.entry, DEFS);
         }
 
-        private void conclude(int depth) {
+        private void conclude(int programDepth) {
             done = true;
             image.clear();
             if (finding == 0) {
-                draw(pop(), depth);
-                image.render(depth);
+                draw(pop(), programDepth);
+                image.render(programDepth);
+            }
+        }
+
+        private void finish(int k) {
+            depth = at(tree.depth, k);
+            switch (at(tree.kind, k)) {
+                case NUMBER:
+                    constant(at(tree.number, k));
+                    break;
+                case NAME:
+                    push(at(slots, at(tree.slot, k)));
+                    break;
+                case ROW:
+                    row(at(tree.parts, k));
+                    break;
+                default:
+                    collect(k);
+                    break;
+            }
+        }
+
+        private void finishOne(int k) {
+            int kind = at(tree.kind, k);
+            int a = pop();
+            depth = at(tree.depth, k);
+            switch (kind) {
+                case '#':
+                    measure(a);
+                    break;
+                case IOTA:
+                    countUp(a);
+                    break;
+                case SCAN:
+                    sumUp(a);
+                    break;
+                case REV:
+                    reverse(a);
+                    break;
+                case FLAT:
+                    flatten(a);
+                    break;
+                default:
+                    reduce(kind, a);
+                    break;
+            }
+        }
+
+        private void finishTwo(int k) {
+            int kind = at(tree.kind, k);
+            int b = pop();
+            int a = pop();
+            depth = at(tree.depth, k);
+            switch (kind) {
+                case '[':
+                    select(a, b);
+                    break;
+                case DIST:
+                    repeat(a, b);
+                    break;
+                case CAT:
+                    append(a, b);
+                    break;
+                case PACK:
+                    pack(a, b);
+                    break;
+                case PERM:
+                    permute(a, b);
+                    break;
+                case PART:
+                    divide(a, b);
+                    break;
+                default:
+                    combine(kind, a, b);
+                    break;
             }
         }
 
@@ -1251,6 +1383,7 @@ public final class NestedVectors {
 
         void prepare() {
             heapSize = 0;
+            outSize = 0;
             work = 0;
             span = 0;
         }
@@ -1287,8 +1420,8 @@ public final class NestedVectors {
             outSize++;
         }
 
-        /** What was added becomes a sequence of that depth, if its COUNT can be paid. */
-        private void give(int depth) {
+        /** What was added becomes the sequence that the node comes to, if its COUNT can be paid. */
+        private void give() {
             int count = outSize;
             for (int i = 0; i < outSize && depth > 1; i++) {
                 count += countOf(at(out, i));
@@ -1319,86 +1452,20 @@ public final class NestedVectors {
             }
         }
 
-        void finish(int k) {
-            int kind = at(tree.kind, k);
-            outSize = 0;
-            switch (kind) {
-                case NUMBER:
-                    push(at(tree.number, k));
-                    break;
-                case NAME:
-                    push(at(slots, at(tree.slot, k)));
-                    break;
-                case ROW:
-                    gather(at(tree.parts, k));
-                    give(at(tree.depth, k));
-                    break;
-                case '{':
-                    collect(k);
-                    break;
-                default:
-                    if (at(tree.parts, k) == 1) {
-                        finishOne(kind, at(tree.depth, k));
-                    } else {
-                        finishTwo(kind, at(tree.depth, k));
-                    }
-                    break;
-            }
+        void constant(int number) {
+            push(number);
         }
 
-        private void finishOne(int kind, int depth) {
-            int a = pop();
-            switch (kind) {
-                case '#':
-                    push(lengthOf(a));
-                    break;
-                case IOTA:
-                    countUp(a);
-                    break;
-                case SCAN:
-                    sumUp(a);
-                    break;
-                case REV:
-                    reverse(a, depth);
-                    break;
-                case FLAT:
-                    flatten(a, depth);
-                    break;
-                default:
-                    reduce(kind, a);
-                    break;
-            }
+        void row(int parts) {
+            gather(parts);
+            give();
         }
 
-        private void finishTwo(int kind, int depth) {
-            int b = pop();
-            int a = pop();
-            switch (kind) {
-                case '[':
-                    select(a, b);
-                    break;
-                case DIST:
-                    repeat(a, b, depth);
-                    break;
-                case CAT:
-                    append(a, b, depth);
-                    break;
-                case PACK:
-                    pack(a, b, depth);
-                    break;
-                case PERM:
-                    permute(a, b, depth);
-                    break;
-                case PART:
-                    divide(a, b, depth);
-                    break;
-                default:
-                    combine(kind, a, b);
-                    break;
-            }
+        void measure(int s) {
+            push(lengthOf(s));
         }
 
-        private void combine(int sign, int a, int b) {
+        void combine(int sign, int a, int b) {
             if (dividesByZero(sign, b)) {
                 finding = QUOTIENT;
             } else {
@@ -1406,7 +1473,7 @@ public final class NestedVectors {
             }
         }
 
-        private void select(int s, int i) {
+        void select(int s, int i) {
             if (i < 0 || i >= lengthOf(s)) {
                 finding = INDEX;
             } else {
@@ -1414,7 +1481,7 @@ public final class NestedVectors {
             }
         }
 
-        private void countUp(int n) {
+        void countUp(int n) {
             if (badSize(n)) {
                 finding = SIZE;
                 return;
@@ -1422,10 +1489,10 @@ public final class NestedVectors {
             for (int i = 0; i < n; i++) {
                 add(i);
             }
-            give(1);
+            give();
         }
 
-        private void repeat(int x, int n, int depth) {
+        void repeat(int x, int n) {
             if (badSize(n)) {
                 finding = SIZE;
                 return;
@@ -1433,10 +1500,10 @@ public final class NestedVectors {
             for (int i = 0; i < n; i++) {
                 add(x);
             }
-            give(depth);
+            give();
         }
 
-        private void reduce(int kind, int s) {
+        void reduce(int kind, int s) {
             int n = lengthOf(s);
             if (n == 0 && kind != SUM) {
                 finding = EMPTY;
@@ -1451,20 +1518,20 @@ public final class NestedVectors {
             }
         }
 
-        private void sumUp(int s) {
+        void sumUp(int s) {
             int total = 0;
             for (int i = 0; i < lengthOf(s); i++) {
                 add(total);
                 total += itemOf(s, i);
             }
-            give(1);
+            give();
         }
 
-        private void reverse(int s, int depth) {
+        void reverse(int s) {
             for (int i = lengthOf(s) - 1; i >= 0; i--) {
                 add(itemOf(s, i));
             }
-            give(depth);
+            give();
         }
 
         private void addAll(int s) {
@@ -1473,17 +1540,17 @@ public final class NestedVectors {
             }
         }
 
-        private void append(int s, int t, int depth) {
+        void append(int s, int t) {
             if (badSize(lengthOf(s) + lengthOf(t))) {
                 finding = SIZE;
                 return;
             }
             addAll(s);
             addAll(t);
-            give(depth);
+            give();
         }
 
-        private void flatten(int s, int depth) {
+        void flatten(int s) {
             int total = 0;
             for (int i = 0; i < lengthOf(s); i++) {
                 total += lengthOf(itemOf(s, i));
@@ -1495,10 +1562,10 @@ public final class NestedVectors {
             for (int i = 0; i < lengthOf(s); i++) {
                 addAll(itemOf(s, i));
             }
-            give(depth);
+            give();
         }
 
-        private void pack(int s, int flags, int depth) {
+        void pack(int s, int flags) {
             if (lengthOf(s) != lengthOf(flags)) {
                 finding = LENGTH;
                 return;
@@ -1508,10 +1575,10 @@ public final class NestedVectors {
                     add(itemOf(s, i));
                 }
             }
-            give(depth);
+            give();
         }
 
-        private void permute(int s, int wishes, int depth) {
+        void permute(int s, int wishes) {
             int n = lengthOf(s);
             if (n != lengthOf(wishes)) {
                 finding = LENGTH;
@@ -1526,10 +1593,10 @@ public final class NestedVectors {
             for (int i = 0; i < n; i++) {
                 add(itemOf(s, at(order, i)));
             }
-            give(depth);
+            give();
         }
 
-        private void divide(int s, int lengths, int depth) {
+        void divide(int s, int lengths) {
             int n = lengthOf(lengths);
             long total = 0;
             boolean below = false;
@@ -1608,10 +1675,10 @@ public final class NestedVectors {
             pc = at(plan.turnAt, k);
         }
 
-        private void collect(int k) {
+        void collect(int k) {
             gather(top - at(base, k));
             top -= at(tree.gens, k);
-            give(at(tree.depth, k));
+            give();
         }
 
         void sift(int k) {
@@ -1626,14 +1693,14 @@ public final class NestedVectors {
             visit(k);
         }
 
-        void draw(int value, int depth) {
-            if (depth <= 0) {
+        void draw(int value, int nesting) {
+            if (nesting <= 0) {
                 image.add(value);
                 return;
             }
             image.add(lengthOf(value));
             for (int i = 0; i < lengthOf(value) && i < LONGEST; i++) {
-                draw(itemOf(value, i), depth - 1);
+                draw(itemOf(value, i), nesting - 1);
             }
         }
     }
@@ -1671,6 +1738,15 @@ public final class NestedVectors {
             used = 0;
             steps = 0;
             ended = 0;
+            reset();
+        }
+
+        private void reset() {
+            firstSize = 0;
+            secondSize = 0;
+            picks = 0;
+            trouble = 0;
+            overflow = false;
         }
 
         /** A number, or a length. The value -1 stands for what a lane with a FINDING has: 0, or no items. */
@@ -1711,14 +1787,6 @@ public final class NestedVectors {
             }
             steps++;
             return true;
-        }
-
-        void begin() {
-            firstSize = 0;
-            secondSize = 0;
-            picks = 0;
-            trouble = 0;
-            overflow = false;
         }
 
         /** Lanes come in order, so that the least lane's FINDING is the one that was missed first. */
@@ -1775,6 +1843,7 @@ public final class NestedVectors {
             } else {
                 ended = trouble;
             }
+            reset();
             return v;
         }
 
@@ -1866,101 +1935,27 @@ public final class NestedVectors {
             }
         }
 
-        void finish(int k) {
-            int kind = at(tree.kind, k);
-            int depth = at(tree.depth, k);
-            rows.begin();
-            switch (kind) {
-                case NUMBER:
-                    constant(at(tree.number, k));
-                    break;
-                case NAME:
-                    push(at(slots, at(tree.slot, k)));
-                    break;
-                case ROW:
-                    row(at(tree.parts, k), depth);
-                    break;
-                case '{':
-                    collect(k);
-                    break;
-                default:
-                    if (at(tree.parts, k) == 1) {
-                        finishOne(kind, depth);
-                    } else {
-                        finishTwo(kind, depth);
-                    }
-                    break;
-            }
+        /** What the rows were told becomes the VALUE that the node comes to; so many of its rows are fresh. */
+        private void give(int fresh) {
+            push(rows.seal(depth, fresh));
             finding = rows.ended;
         }
 
-        private void finishOne(int kind, int depth) {
-            int a = pop();
-            switch (kind) {
-                case '#':
-                    lengths(a);
-                    break;
-                case IOTA:
-                    countUp(a);
-                    break;
-                case SCAN:
-                    sumUp(a);
-                    break;
-                case REV:
-                    reverse(a, depth);
-                    break;
-                case FLAT:
-                    flatten(a, depth);
-                    break;
-                default:
-                    reduce(kind, a);
-                    break;
-            }
-        }
-
-        private void finishTwo(int kind, int depth) {
-            int b = pop();
-            int a = pop();
-            switch (kind) {
-                case '[':
-                    select(a, b, depth);
-                    break;
-                case DIST:
-                    repeat(a, b, depth);
-                    break;
-                case CAT:
-                    append(a, b, depth);
-                    break;
-                case PACK:
-                    pack(a, b, depth);
-                    break;
-                case PERM:
-                    permute(a, b, depth);
-                    break;
-                case PART:
-                    divide(a, b, depth);
-                    break;
-                default:
-                    combine(kind, a, b);
-                    break;
-            }
-        }
-
-        private void constant(int number) {
+        void constant(int number) {
             for (int lane = 0; lane < lanes; lane++) {
                 rows.first(number);
             }
-            push(rows.seal(0, 1));
+            give(1);
         }
 
-        private void lengths(int s) {
+        void measure(int s) {
             for (int lane = 0; lane < lanes; lane++) {
                 rows.first(rows.cell(s, lane));
             }
-            push(rows.seal(0, 1));
+            give(1);
         }
 
-        private void combine(int sign, int a, int b) {
+        void combine(int sign, int a, int b) {
             for (int lane = 0; lane < lanes; lane++) {
                 int y = rows.cell(b, lane);
                 if (dividesByZero(sign, y)) {
@@ -1968,10 +1963,10 @@ public final class NestedVectors {
                 }
                 rows.first(compute(sign, rows.cell(a, lane), y));
             }
-            push(rows.seal(0, 1));
+            give(1);
         }
 
-        private void select(int s, int index, int depth) {
+        void select(int s, int index) {
             for (int lane = 0; lane < lanes; lane++) {
                 int i = rows.cell(index, lane);
                 if (i < 0 || i >= rows.cell(s, lane)) {
@@ -1982,10 +1977,10 @@ public final class NestedVectors {
                     rows.pick(rows.items(s), there, there + 1);
                 }
             }
-            push(rows.seal(depth, 0));
+            give(0);
         }
 
-        private void row(int n, int depth) {
+        void row(int n) {
             top -= n;
             for (int lane = 0; lane < lanes && !rows.overflow; lane++) {
                 rows.first(n);
@@ -1993,7 +1988,7 @@ public final class NestedVectors {
                     rows.pick(at(stack, top + i), lane, lane + 1);
                 }
             }
-            push(rows.seal(depth, 1));
+            give(1);
         }
 
         private int sizeIn(int n, int lane) {
@@ -2005,7 +2000,7 @@ public final class NestedVectors {
             return size;
         }
 
-        private void countUp(int n) {
+        void countUp(int n) {
             for (int lane = 0; lane < lanes && !rows.overflow; lane++) {
                 int size = sizeIn(n, lane);
                 rows.first(size);
@@ -2013,10 +2008,10 @@ public final class NestedVectors {
                     rows.second(i);
                 }
             }
-            push(rows.seal(1, 2));
+            give(2);
         }
 
-        private void repeat(int v, int n, int depth) {
+        void repeat(int v, int n) {
             for (int lane = 0; lane < lanes && !rows.overflow; lane++) {
                 int size = sizeIn(n, lane);
                 rows.first(size);
@@ -2024,10 +2019,10 @@ public final class NestedVectors {
                     rows.pick(v, lane, lane + 1);
                 }
             }
-            push(rows.seal(depth, 1));
+            give(1);
         }
 
-        private void reduce(int kind, int s) {
+        void reduce(int kind, int s) {
             int items = rows.items(s);
             for (int lane = 0; lane < lanes; lane++) {
                 int from = rows.start(s, lane);
@@ -2041,33 +2036,35 @@ public final class NestedVectors {
                 }
                 rows.first(total);
             }
-            push(rows.seal(0, 1));
+            give(1);
         }
 
-        private void sumUp(int s) {
+        void sumUp(int s) {
             int items = rows.items(s);
             for (int lane = 0; lane < lanes; lane++) {
                 int total = 0;
+                int to = rows.end(s, lane);
                 rows.first(rows.cell(s, lane));
-                for (int i = rows.start(s, lane); i < rows.end(s, lane); i++) {
+                for (int i = rows.start(s, lane); i < to; i++) {
                     rows.second(total);
                     total += rows.cell(items, i);
                 }
             }
-            push(rows.seal(1, 2));
+            give(2);
         }
 
-        private void reverse(int s, int depth) {
+        void reverse(int s) {
             for (int lane = 0; lane < lanes; lane++) {
+                int from = rows.start(s, lane);
                 rows.first(rows.cell(s, lane));
-                for (int i = rows.end(s, lane) - 1; i >= rows.start(s, lane); i--) {
+                for (int i = rows.end(s, lane) - 1; i >= from; i--) {
                     rows.pick(rows.items(s), i, i + 1);
                 }
             }
-            push(rows.seal(depth, 1));
+            give(1);
         }
 
-        private void append(int s, int t, int depth) {
+        void append(int s, int t) {
             for (int lane = 0; lane < lanes; lane++) {
                 int size = rows.cell(s, lane) + rows.cell(t, lane);
                 if (badSize(size)) {
@@ -2079,10 +2076,10 @@ public final class NestedVectors {
                     rows.pick(rows.items(t), rows.start(t, lane), rows.end(t, lane));
                 }
             }
-            push(rows.seal(depth, 1));
+            give(1);
         }
 
-        private void flatten(int s, int depth) {
+        void flatten(int s) {
             int inner = rows.items(s);
             for (int lane = 0; lane < lanes; lane++) {
                 boolean none = rows.cell(s, lane) == 0;
@@ -2096,10 +2093,10 @@ public final class NestedVectors {
                     rows.pick(rows.items(inner), from, to);
                 }
             }
-            push(rows.seal(depth, 1));
+            give(1);
         }
 
-        private void pack(int s, int flags, int depth) {
+        void pack(int s, int flags) {
             for (int lane = 0; lane < lanes; lane++) {
                 int size = rows.cell(s, lane);
                 int chosen = 0;
@@ -2116,10 +2113,10 @@ public final class NestedVectors {
                 }
                 rows.first(chosen);
             }
-            push(rows.seal(depth, 1));
+            give(1);
         }
 
-        private void permute(int s, int p, int depth) {
+        void permute(int s, int p) {
             for (int lane = 0; lane < lanes; lane++) {
                 int size = ordered(s, p, lane);
                 int from = rows.start(s, lane);
@@ -2128,7 +2125,7 @@ public final class NestedVectors {
                     rows.pick(rows.items(s), from + at(order, i), from + at(order, i) + 1);
                 }
             }
-            push(rows.seal(depth, 1));
+            give(1);
         }
 
         /** Puts the lane's items in order; how many they are, 0 behind a FINDING. */
@@ -2148,7 +2145,7 @@ public final class NestedVectors {
             return size;
         }
 
-        private void divide(int s, int l, int depth) {
+        void divide(int s, int l) {
             for (int lane = 0; lane < lanes; lane++) {
                 int from = rows.start(l, lane);
                 int to = rows.end(l, lane);
@@ -2164,7 +2161,7 @@ public final class NestedVectors {
                     rows.pick(rows.items(s), rows.start(s, lane), rows.end(s, lane));
                 }
             }
-            push(rows.seal(depth, 2));
+            give(2);
         }
 
         private int cannotDivide(int size, int lengths, int from, int to) {
@@ -2227,7 +2224,6 @@ public final class NestedVectors {
         private void narrow(int choice, boolean wish, int among) {
             for (int i = 0; i < wantedSize && finding == 0; i++) {
                 int slot = at(wanted, i);
-                rows.begin();
                 for (int lane = 0; lane < among; lane++) {
                     if (chosen(choice, lane, wish)) {
                         rows.pick(at(slots, slot), lane, lane + 1);
@@ -2265,7 +2261,6 @@ public final class NestedVectors {
             int otherwise = pop();
             int then = pop();
             int i = 0;
-            rows.begin();
             for (int lane = 0; lane < lanes; lane++) {
                 if (chosen(at(guide, k), lane, true)) {
                     rows.pick(then, i, i + 1);
@@ -2274,8 +2269,8 @@ public final class NestedVectors {
                     rows.pick(otherwise, lane - i, lane - i + 1);
                 }
             }
-            push(rows.seal(at(tree.depth, k), 0));
-            finding = rows.ended;
+            depth = at(tree.depth, k);
+            give(0);
         }
 
         void open(int k) {
@@ -2316,7 +2311,6 @@ public final class NestedVectors {
         private void spread(int lengths) {
             for (int i = 0; i < wantedSize && finding == 0; i++) {
                 int slot = at(wanted, i);
-                rows.begin();
                 for (int lane = 0; lane < lanes && !rows.overflow; lane++) {
                     int size = rows.cell(lengths, lane);
                     for (int j = 0; j < size; j++) {
@@ -2341,10 +2335,10 @@ public final class NestedVectors {
 
         private void shorten(int k, int choice) {
             int lengths = at(guide, k);
-            rows.begin();
             for (int lane = 0; lane < at(lanesOf, k); lane++) {
                 int left = 0;
-                for (int i = rows.start(lengths, lane); i < rows.end(lengths, lane); i++) {
+                int to = rows.end(lengths, lane);
+                for (int i = rows.start(lengths, lane); i < to; i++) {
                     left += chosen(choice, i, true) ? 1 : 0;
                 }
                 rows.first(left);
@@ -2356,23 +2350,23 @@ public final class NestedVectors {
         void next(int k) {
         }
 
-        private void collect(int k) {
+        void collect(int k) {
             int items = pop();
             restore(k);
             lanes = at(lanesOf, k);
             push(rows.bundle(at(guide, k), items));
         }
 
-        void draw(int value, int depth) {
-            drawLane(value, 0, depth);
+        void draw(int value, int nesting) {
+            drawLane(value, 0, nesting);
         }
 
-        private void drawLane(int value, int lane, int depth) {
+        private void drawLane(int value, int lane, int nesting) {
             int x = rows.cell(value, lane);
             image.add(x);
-            if (depth > 0) {
+            if (nesting > 0) {
                 for (int i = 0; i < x && i < LONGEST; i++) {
-                    drawLane(rows.items(value), rows.start(value, lane) + i, depth - 1);
+                    drawLane(rows.items(value), rows.start(value, lane) + i, nesting - 1);
                 }
             }
         }

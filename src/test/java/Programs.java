@@ -19,11 +19,13 @@ final class Programs {
     private final List<Function> functions = new ArrayList<>();
     private final StringBuilder out = new StringBuilder();
     private final boolean wild;
+    private final boolean heavy;
     private int budget;
 
     Programs(long seed) {
         random = new Random(seed);
         wild = random.nextInt(3) == 0;
+        heavy = random.nextInt(4) == 0;
     }
 
     String make() {
@@ -75,6 +77,10 @@ final class Programs {
     }
 
     private void number() {
+        if (heavy && chance(2)) {
+            say("" + 10 * (1 + random.nextInt(8)));
+            return;
+        }
         int pick = random.nextInt(40);
         say(pick == 0 ? "200" : pick == 1 ? "201" : pick == 2 ? "999999999" : pick == 3 ? "60" : "" + random.nextInt(5));
     }

@@ -15,6 +15,7 @@ public final class CallsTest {
     private boolean flatDone;
     private int nestedRuns;
     private int flatRuns;
+    private int calls;
 
     private CallsTest(long seed) {
         random = new Random(seed);
@@ -25,7 +26,7 @@ public final class CallsTest {
         int rounds = args.length > 0 ? Integer.parseInt(args[0]) : 150;
         for (long seed = 1; seed <= rounds; seed++) {
             CallsTest test = new CallsTest(seed);
-            for (int i = 0; i < 512; i++) {
+            while (test.calls < 512) {
                 test.call();
             }
         }
@@ -39,7 +40,7 @@ public final class CallsTest {
             case 3 -> feedOne(random.nextInt(4) == 0 ? 0L : (long) "0123456789 xy".charAt(random.nextInt(13)));
             case 4 -> cut();
             case 5, 6, 7 -> read();
-            case 8 -> Check.due("fault()" + where, x.fault(), latestFault);
+            case 8 -> due("fault()" + where, x.fault(), latestFault);
             case 9 -> about();
             case 10 -> node();
             case 11, 12, 13 -> nested();
@@ -49,6 +50,11 @@ public final class CallsTest {
             case 20, 21 -> byteAt(random.nextBoolean());
             default -> alike();
         }
+    }
+
+    private void due(String call, int got, int want) {
+        calls++;
+        Check.due(call, got, want);
     }
 
     private int anyInt(int near) {
@@ -64,10 +70,10 @@ public final class CallsTest {
             text = programs.spoil(text);
         }
         if (random.nextInt(3) > 0) {
-            Check.due("cut(0)" + where, x.cut(0), tape.length());
+            due("cut(0)" + where, x.cut(0), tape.length());
             tape.setLength(0);
         }
-        for (int i = 0; i < text.length(); i += 8) {
+        for (int i = 0; i < text.length() && calls < 512; i += 8) {
             feedOne(Check.pack(text, i));
         }
     }
@@ -78,17 +84,17 @@ public final class CallsTest {
             more.append((char) (rest & 255));
         }
         if (tape.length() + more.length() > 1200) {
-            Check.due("feed(" + w + ")" + where, x.feed(w), FULL);
+            due("feed(" + w + ")" + where, x.feed(w), FULL);
         } else {
             tape.append(more);
-            Check.due("feed(" + w + ")" + where, x.feed(w), tape.length());
+            due("feed(" + w + ")" + where, x.feed(w), tape.length());
         }
     }
 
     private void cut() {
         int n = anyInt(tape.length());
         int due = n < 0 || n > tape.length() ? BAD : tape.length() - n;
-        Check.due("cut(" + n + ")" + where, x.cut(n), due);
+        due("cut(" + n + ")" + where, x.cut(n), due);
         if (due != BAD) {
             tape.setLength(n);
         }
@@ -100,7 +106,7 @@ public final class CallsTest {
         nestedDone = false;
         flatDone = false;
         program = o.fault == 0 ? o : null;
-        Check.due("read()" + where, x.read(), o.fault == 0 ? o.nodes.size() : -100 - o.faultPlace);
+        due("read()" + where, x.read(), o.fault == 0 ? o.nodes.size() : -100 - o.faultPlace);
         if (o.fault == 0) {
             tape.setLength(0);
         }
@@ -118,7 +124,7 @@ public final class CallsTest {
         } else {
             due = what == 0 ? program.nodes.size() : what == 1 ? program.defs.size() : program.root.depth;
         }
-        Check.due("about(" + what + ")" + where, x.about(what), due);
+        due("about(" + what + ")" + where, x.about(what), due);
     }
 
     private void node() {
@@ -134,29 +140,29 @@ public final class CallsTest {
         } else {
             due = what == 0 ? program.nodes.get(k).place : program.nodes.get(k).depth;
         }
-        Check.due("node(" + k + ", " + what + ")" + where, x.node(k, what), due);
+        due("node(" + k + ", " + what + ")" + where, x.node(k, what), due);
     }
 
     private void nested() {
         if (program == null || nestedRuns == 20) {
-            Check.due("nested()" + where, x.nested(), program == null ? STATE : FULL);
+            due("nested()" + where, x.nested(), program == null ? STATE : FULL);
             return;
         }
         nestedRuns++;
         nestedDone = true;
         program.runNested();
-        Check.due("nested()" + where, x.nested(), program.nestedEnd);
+        due("nested()" + where, x.nested(), program.nestedEnd);
     }
 
     private void flat() {
         if (program == null || flatRuns == 20) {
-            Check.due("flat()" + where, x.flat(), program == null ? STATE : FULL);
+            due("flat()" + where, x.flat(), program == null ? STATE : FULL);
             return;
         }
         flatRuns++;
         flatDone = true;
         program.runFlat();
-        Check.due("flat()" + where, x.flat(), program.flatEnd);
+        due("flat()" + where, x.flat(), program.flatEnd);
     }
 
     private void meter() {
@@ -169,7 +175,7 @@ public final class CallsTest {
         } else {
             due = !flatDone ? STATE : what == 2 ? program.steps : what == 3 ? program.cells : program.most;
         }
-        Check.due("meter(" + what + ")" + where, x.meter(what), due);
+        due("meter(" + what + ")" + where, x.meter(what), due);
     }
 
     private boolean told(boolean flat) {
@@ -181,7 +187,7 @@ public final class CallsTest {
     }
 
     private void shown(boolean flat) {
-        Check.due("shown(" + flat + ")" + where, x.shown(flat), told(flat) ? text(flat).length() : STATE);
+        due("shown(" + flat + ")" + where, x.shown(flat), told(flat) ? text(flat).length() : STATE);
     }
 
     private void byteAt(boolean flat) {
@@ -190,10 +196,10 @@ public final class CallsTest {
         if (told(flat)) {
             due = i < 0 || i >= Math.min(2000, text(flat).length()) ? NONE : text(flat).charAt(i);
         }
-        Check.due("byteAt(" + flat + ", " + i + ")" + where, x.byteAt(flat, i), due);
+        due("byteAt(" + flat + ", " + i + ")" + where, x.byteAt(flat, i), due);
     }
 
     private void alike() {
-        Check.due("alike()" + where, x.alike(), nestedDone && flatDone ? program.alike() : STATE);
+        due("alike()" + where, x.alike(), nestedDone && flatDone ? program.alike() : STATE);
     }
 }

@@ -187,6 +187,11 @@ public final class FindingEdgesTest {
         Edge.comes("flat([iota(0)])", "[]");
         Edge.comes("#flat(dist(dist([1,2],100),2))", "200");
         Edge.ends("flat([dist([1],100),dist([1],101)])", SIZE);
+        // Each lane has its own 200.
+        Edge.comes("{#flat(r):r in[[iota(200)],[iota(100),iota(100)],[iota(0)]]}", "[200,200,0]");
+        Edge.ends("{#flat(r):r in[[iota(200)],[iota(100),iota(101)]]}", SIZE);
+        Edge.comes("{#cat(r,iota(100)):r in[iota(100),iota(0),iota(100)]}", "[200,100,200]");
+        Edge.ends("{#cat(r,iota(100)):r in[iota(100),iota(101)]}", SIZE);
     }
 
     /** "pack(s, f): the items of s where f, of numbers, has not 0 (LENGTH: they are not as long)" */
@@ -199,6 +204,9 @@ public final class FindingEdgesTest {
         Edge.ends("pack(iota(0),[1])", LENGTH);
         Edge.ends("pack([1],iota(0))", LENGTH);
         Edge.comes("#pack(iota(200),iota(200))", "199");
+        // What is kept beside them does not count.
+        Edge.comes("let f=[1,0] in let s=[5,6] in let t=[9,9] in [pack(s,f),pack(f,s),pack(t,f)]", "[[5],[1,0],[9]]");
+        Edge.comes("let f=[0,1] in let s=[5,6] in [pack(s,f),pack(s,s)]", "[[6],[5,6]]");
         // Together they are as long, lane by lane they are not.
         Edge.ends("{pack(r,f):r in [[1],[2,3]],f in [[1,1],[1]]}", LENGTH);
     }

@@ -9,6 +9,7 @@ public final class LimitEdgesTest {
         workOfBegins();
         workOfEnds();
         workBehindFindings();
+        countOfWhatCame();
         stepsOfBegins();
         stepsOfNumbersAndSigns();
         stepsOfReservedWords();
@@ -133,6 +134,45 @@ public final class LimitEdgesTest {
         found("part([1],[2])", 7, 1, Edge.LENGTH);
         found("part([1],[0-1])", 9, 1, Edge.SIZE);
         found("{1:x in [1],y in iota(0)}", 6, 1, Edge.LENGTH);
+    }
+
+    /** "COUNT: of a number 0, of a sequence its length and the COUNTS of its items", whatever it came of. */
+    private static void countOfWhatCame() {
+        count("[1,2]", 5, 2);
+        count("[[1,2],iota(0)]", 6 + 2 + 4, 4);
+        count("iota(3)", 5, 3);
+        count("iota(0)", 2, 0);
+        count("dist([1,2],3)", 16, 9);
+        count("scan(iota(3))", 9, 3);
+        count("rev([[1,2],[3]])", 7 + 3 + 5 + 5, 5);
+        count("cat([[1]],[[2,3]])", 8 + 1 + 2 + 2 + 3 + 5, 5);
+        count("flat([[[1,2]],[[3]]])", 9 + 2 + 3 + 1 + 2 + 7 + 5, 5);
+        count("pack([[1,2],[3]],[0,1])", 10 + 3 + 5 + 2 + 2, 2);
+        count("perm([[1,2],[3]],[1,0])", 10 + 3 + 5 + 2 + 5, 5);
+        count("part([1,2,3],[1,0,2])", 9 + 3 + 3 + 6, 6);
+        count("part([[1,2],[3]],[1,1])", 10 + 3 + 5 + 2 + 7, 7);
+        count("part([1,2,3],[1,0,2])[2]", 9 + 3 + 3 + 6 + 2, 2);
+        count("part([1,2,3],[1,0,2])[1]", 9 + 3 + 3 + 6 + 2, 0);
+        count("part([[1,2],[3]],[1,1])[0]", 10 + 3 + 5 + 2 + 7 + 2, 3);
+        count("part([[1,2],[3]],[1,1])[1]", 10 + 3 + 5 + 2 + 7 + 2, 2);
+        count("{[x,x]:x in iota(3)}", 3 + 3 + 3 * 5 + 9, 9);
+        count("[[1,2],[3]][0]", 8 + 3 + 5, 2);
+        count("if 1 then [[1,2]] else [[1]]", 6 + 2 + 3, 3);
+    }
+
+    /** It takes so much WORK and has that COUNT, which rev and a row of it take as well. */
+    private static void count(String core, int taken, int count) {
+        NestedVectors x = Check.program("#(" + core + ")");
+        x.nested();
+        Check.due("WORK of # of " + core, x.meter(0), taken + 1);
+        NestedVectors y = Check.program("rev(" + core + ")");
+        y.nested();
+        Check.due("WORK of rev of " + core, y.meter(0), taken + 1 + count);
+        if (y.about(2) < 3) {
+            NestedVectors z = Check.program("[" + core + "]");
+            z.nested();
+            Check.due("WORK of a row of " + core, z.meter(0), taken + 1 + 1 + count);
+        }
     }
 
     private static void found(String core, int taken, int last, int finding) {

@@ -122,6 +122,18 @@ public final class MeterTest {
         flat("{{y:y in iota(x)}:x in iota(3)}", 1 + 4 + 1 + 3 + 1, 5 + 6, 3);
         flat("{{x:y in iota(x)}:x in iota(4)}", 1 + 4 + 1 + 3 + 1 + 1, 6 + 10 + 6, 6);
         flat("{x+y:x in iota(2),y in [7,8]}", 1 + 4 + 6 + 4, 4 + 5 + 2, 2);
+        flat("let n=9 in {n:x in [5,6]}", 3 + 1 + 6 + 1 + 1, 1 + 5 + 2, 2);
+        flat("let s=[5] in {s:x in [7,8]}", 5 + 1 + 6 + 1 + 1, 3 + 5 + 4, 2);
+        flat("let n=9 in {{n:y in r}:r in [[5,6],[7]]}", 3 + 1 + 12 + 1 + 1 + 1 + 1 + 1, 1 + 14 + 2 + 3, 3);
+        // What one { } or if takes of variables the next one does not.
+        flat("let n=9 in [#{n:x in [5,6]},#{1:x in [5,6]}]", 3 + 1 + 11 + 11 + 1, 1 + 8 + 8 + 3, 2);
+        flat("let n=9 in [#{n:x in [5,6]},if 1 then 2 else 3]", 3 + 1 + 11 + 8 + 1, 1 + 8 + 3 + 3, 2);
+        flat("let n=9 in [if 1 then n else 3,#{1:x in [5,6]}]", 3 + 1 + 8 + 11 + 1, 1 + 3 + 8 + 3, 2);
+        flat("let n=9 in if 1 then {n:x in [5,6]} else iota(0)",
+            3 + 1 + 2 + 1 + (1 + 6 + 1 + 1) + 4 + 1, 1 + 1 + 1 + 5 + 2 + 3, 2);
+        // Each variable once, however often it stands there, and in whichever part.
+        flat("let n=9 in {n+n:x in [5,6]|n}", 3 + 1 + 6 + 1 + 1 + 1 + 1 + 4, 1 + 5 + 2 + 2 + 1 + 2, 2);
+        flat("let n=9 in {n+x+n+x:x in [5,6]|x-x}", 3 + 1 + 6 + 1 + 4 + 2 + 1 + 10, 1 + 5 + 2 + 2 + 0 + 1, 2);
     }
 
     /** The cells of the step that ended it count, as if the lane had 0 or no items. */

@@ -40,6 +40,13 @@ public final class RandomTest {
         Check.due("about(2)" + where, x.about(2), o.root.depth);
         for (int k = 0; k < o.nodes.size(); k++) {
             Check.due("node(" + k + ", 0)" + where, x.node(k, 0), o.nodes.get(k).place);
+        }
+        runs(o, Check.program(text), where);
+    }
+
+    /** On an object of its own: one is used for 512 calls. */
+    private static void runs(Oracle o, NestedVectors x, String where) {
+        for (int k = 0; k < o.nodes.size(); k++) {
             Check.due("node(" + k + ", 1)" + where, x.node(k, 1), o.nodes.get(k).depth);
         }
         o.runNested();
@@ -64,8 +71,12 @@ public final class RandomTest {
             Check.due("byteAt(" + flat + ", 0)" + where, x.byteAt(flat, 0), NestedVectors.STATE);
             return;
         }
+        int told = Math.min(2000, text.length());
         Check.due("shown(" + flat + ")" + where, x.shown(flat), text.length());
-        Check.due("text " + flat + where, Check.text(x, flat), text.substring(0, Math.min(2000, text.length())));
-        Check.due("byteAt behind" + where, x.byteAt(flat, Math.min(2000, text.length())), NestedVectors.NONE);
+        // Of a long text its beginning and its end are looked at.
+        for (int i = 0; i < told; i += i == 19 && told > 40 ? told - 39 : 1) {
+            Check.due("byteAt(" + flat + ", " + i + ")" + where, x.byteAt(flat, i), text.charAt(i));
+        }
+        Check.due("byteAt behind" + where, x.byteAt(flat, told), NestedVectors.NONE);
     }
 }

@@ -11,6 +11,7 @@ public final class LimitEdgesTest {
         workBehindFindings();
         countOfWhatCame();
         stepsOfBegins();
+        lanesOfBegins();
         stepsOfNumbersAndSigns();
         stepsOfReservedWords();
         stepsOfChoices();
@@ -255,6 +256,18 @@ public final class LimitEdgesTest {
         stepsLimit("{1:x in iota(3)}", 1, 0, 0);
         stepsLimit("{1:x in iota(3)}", 6, 5, 0);
         stepsLimit("{1:x in iota(3)|x}", 6, 5, 0);
+    }
+
+    /** "the most LANES (4) in which a NODE was begun": one that has no ROOM to begin was not. */
+    private static void lanesOfBegins() {
+        NestedVectors x = Check.program(Edge.steps(STEPS - 6) + "{1:x in iota(3)}");
+        Check.due("flat() with the begin of a NODE in 3 LANES", x.flat(), Edge.ROOM);
+        Check.due("STEPS with that begin", x.meter(2), STEPS);
+        Check.due("LANES with that begin", x.meter(4), 3);
+        NestedVectors y = Check.program(Edge.steps(STEPS - 5) + "{1:x in iota(3)}");
+        Check.due("flat() without the begin of a NODE in 3 LANES", y.flat(), Edge.ROOM);
+        Check.due("STEPS without that begin", y.meter(2), STEPS);
+        Check.due("LANES without that begin", y.meter(4), 1);
     }
 
     private static void stepsOfNumbersAndSigns() {

@@ -1694,13 +1694,17 @@ public final class NestedVectors {
         }
 
         void draw(int value, int nesting) {
+            drawItem(value, nesting);
+        }
+
+        private void drawItem(int value, int nesting) {
             if (nesting <= 0) {
                 image.add(value);
                 return;
             }
             image.add(lengthOf(value));
             for (int i = 0; i < lengthOf(value) && i < LONGEST; i++) {
-                draw(itemOf(value, i), nesting - 1);
+                drawItem(itemOf(value, i), nesting - 1);
             }
         }
     }

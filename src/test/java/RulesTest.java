@@ -10,19 +10,24 @@ import java.util.Collections;
 import java.util.IdentityHashMap;
 import java.util.Set;
 import java.util.TreeSet;
+import java.util.regex.Matcher;
+import java.util.regex.Pattern;
 
 /** The public face, and those rules of LANGUAGE.md that a test can see. It runs in the project's directory. */
 public final class RulesTest {
     private static final Set<String> FACE = Set.of("feed(long)", "cut(int)", "read()", "fault()", "about(int)",
         "node(int,int)", "nested()", "flat()", "meter(int)", "shown(boolean)", "byteAt(boolean,int)", "alike()");
+    private static final Path SOURCE = Path.of("src/main/java/NestedVectors.java");
+    private static final Pattern METHOD = Pattern.compile("(?m)^( {4,8})(\\w[^=;\n]*?)(\\w+)\\([^\n]*\\) \\{$");
     private static final String[] FORBIDDEN = {"throw", "try", "catch", "finally", "synchronized", "assert", "->", "::",
         "lambda", "Exact", "import", "volatile", "native", "double", "float", "\"+", "+\"", "\" +", "+ \"", "hashCode",
-        "toString", "System", "Thread", "Object"};
+        "toString", "System", "Thread", "Object", "while (true)", "for (;;)"};
 
     public static void main(String[] args) throws IOException {
         face();
         classesInside();
         source();
+        recursion();
         room();
         Check.end();
     }
@@ -82,9 +87,13 @@ public final class RulesTest {
         }
     }
 
+    private static String code(String text) {
+        return text.replaceAll("(?s)/\\*.*?\\*/", "").replaceAll("//[^\n]*", "");
+    }
+
     private static void source() throws IOException {
-        String text = Files.readString(Path.of("src/main/java/NestedVectors.java"));
-        String code = text.replaceAll("(?s)/\\*.*?\\*/", "").replaceAll("//[^\n]*", "");
+        String text = Files.readString(SOURCE);
+        String code = code(text);
         for (String word : FORBIDDEN) {
             boolean plain = word.matches("[A-Za-z]+");
             boolean found = plain ? code.matches("(?s).*\\b" + word + "\\b.*") : code.contains(word);
@@ -99,6 +108,21 @@ public final class RulesTest {
             Check.due("a method of " + length + " lines", ends && length > 60 ? length : 0, 0);
             length = ends ? 0 : length;
         }
+    }
+
+    /** Rule 8: a method that calls itself is a private one. */
+    private static void recursion() throws IOException {
+        String code = code(Files.readString(SOURCE));
+        Matcher m = METHOD.matcher(code);
+        int calling = 0;
+        while (m.find()) {
+            String body = code.substring(m.end(), code.indexOf("\n" + m.group(1) + "}", m.end()));
+            if (Pattern.compile("(?<![.\\w])" + m.group(3) + "\\(").matcher(body).find()) {
+                calling++;
+                Check.due(m.group(3) + " calls itself and is private", m.group(2).startsWith("private") ? 1 : 0, 1);
+            }
+        }
+        Check.due("methods that call themselves were seen", calling > 0 ? 1 : 0, 1);
     }
 
     /** What one object has stays small: some dozens of them fit into the room of a run. */

@@ -5,8 +5,6 @@ import java.util.Set;
 import java.util.TreeSet;
 import java.util.regex.Matcher;
 import java.util.regex.Pattern;
-import javax.tools.JavaCompiler;
-import javax.tools.ToolProvider;
 
 /**
  * What README.md says is so: its Java is compiled and run, each answer that stands behind a call is compared, and
@@ -22,7 +20,7 @@ public final class ReadmeTest {
 
     private static int answers;
 
-    public static void main(String[] args) throws IOException, ReflectiveOperationException {
+    public static void main(String[] args) throws Exception {
         String readme = Files.readString(Path.of("README.md"));
         if (compile(source(readme))) {
             Class.forName(MADE).getDeclaredMethod("run").invoke(null);
@@ -69,16 +67,12 @@ public final class ReadmeTest {
     }
 
     /** The class comes to where the tests' classes are, so that it finds them and is found. */
-    private static boolean compile(String source) throws IOException {
+    private static boolean compile(String source) throws IOException, InterruptedException {
         Path classes = Path.of(System.getProperty("java.class.path"));
         Path file = classes.resolve(MADE + ".java");
         Files.writeString(file, source);
-        JavaCompiler compiler = ToolProvider.getSystemJavaCompiler();
-        if (compiler == null) {
-            Check.due("there is a compiler", 0, 1);
-            return false;
-        }
-        int code = compiler.run(null, null, null, "-d", classes.toString(), "-cp", classes.toString(), file.toString());
+        ProcessBuilder javac = new ProcessBuilder("javac", "-d", classes.toString(), "-cp", classes.toString(), file.toString());
+        int code = javac.inheritIO().start().waitFor();
         Check.due("javac of the Java in README.md", code, 0);
         return code == 0;
     }
